@@ -103,6 +103,12 @@ public final class AheadTest {
         Due.answered("with no medals", x, x.seenAt(0, 0, 4, 0), 7);
         x.fall(1);
         Due.answered("of one who fell", x, x.seenAt(1, 0, 4, 1), 5);
+        Due.fill(x, 0, 22, 1, 2, 1, 3, 0);
+        Due.answered("20 alone", x, x.seenAt(1, 0, 1, 0), 20);
+        Due.answered("20 alone", x, x.seen(1, 0, 1), 1);
+        x.write(0, 0, 2);
+        Due.answered("0 alone", x, x.seenAt(1, 0, 3, 1), 0);
+        Due.answered("0 alone", x, x.seen(1, 0, 3), 1);
         Due.fill(x, 0, 5, 1, 5, 0);
         Due.answered("none fits", x, x.seen(1, 0, 2), 0);
         Due.refused("none fits", x, x.seenAt(1, 0, 2, 1), 6);
@@ -122,6 +128,8 @@ public final class AheadTest {
         Due.answered("4: 2 and 2", x, x.ask(1, 0, 2), 7);
         Due.answered("2: 1 and 1", x, x.ask(1, 0, 3), 8);
         Due.refused("fewer than two", x, x.ask(1, 0, 4), 6);
+        Due.fill(x, 1, 4, 0);
+        Due.answered("0 and 1", x, x.ask(1, 1, 1), 3);
         x.fall(1);
         Due.answered("of one who fell", x, x.ask(1, 0, 0), 12);
         MedalBoard full = Due.withArmy("pride 9;man a courage 0 medals 99;man b courage 0 medals 10;");
@@ -236,6 +244,29 @@ public final class AheadTest {
         Due.answered("c's vote is b's: a runs", y, y.game(0, 1, 0, 1), 0);
         Due.answered("c's vote is b's: a stands", y, y.game(0, 2, 0, 1), 0);
         Due.is("nothing is changed", y.told(5) + y.told(8), 0);
+        gameByTurns();
+    }
+
+    /** Who stands gives a MEDAL away and gets none, so by best play neither gives the other one any. */
+    private static void gameByTurns() {
+        MedalBoard x = Due.withArmy("pride 1;man a courage 5 medals 4;man b courage 7 medals 1;man c courage 3;man d courage 1;"
+            + "likes a b 9;likes b a 9;likes c d 9;");
+        Due.fill(x, 0, 8, 9, 2, 4);
+        for (int n = 0; n <= 4; n++) {
+            Due.answered("a against b, " + n, x, x.game(0, 1, 0, n), 3);
+            Due.answered("b against a, " + n, x, x.game(1, 0, 0, n), -3);
+            Due.answered("c against a, " + n, x, x.game(2, 0, 0, n), -4);
+        }
+        Due.is("8: c would have it, not b", x.moveOf(0, 1, 0, 4), 1);
+        Due.is("8: c would have it", x.moveOf(0, 2, 0, 4), 0);
+        x.write(0, 0, 9);
+        Due.is("9: b would have it", x.moveOf(0, 1, 0, 4), 0);
+        Due.is("9: b would have it, not c", x.moveOf(0, 2, 0, 4), 1);
+        MedalBoard full = Due.withArmy("pride 0;man a courage 5;man b courage 0 medals 99;");
+        Due.fill(full, 0, 5);
+        Due.is("99 at most: as good", full.moveOf(0, 1, 0, 1), 1);
+        full.lose(1);
+        Due.is("98", full.moveOf(0, 1, 0, 1), 0);
     }
 
     private static void moveOf() {

@@ -161,6 +161,13 @@ public final class BoardsTest {
         x.weigh(3, 0);
         Due.refused("none do", x, x.fewest(), 6);
         Due.refused("none do", x, x.fewestSet(), 6);
+        MedalBoard eight = new MedalBoard();
+        eight.rule(2, 99);
+        for (int i = 0; i < 8; i++) {
+            eight.enlist(0, 1);
+        }
+        Due.answered("all eight", eight, eight.fewest(), 8);
+        Due.answered("all eight", eight, eight.fewestSet(), 255);
     }
 
     private static void power() {

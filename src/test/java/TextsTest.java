@@ -6,6 +6,7 @@ public final class TextsTest {
         tape();
         armies();
         armyStands();
+        nothingStaysOfTrials();
         faultsOfAnArmy();
         likesInAText();
         wars();
@@ -70,6 +71,16 @@ public final class TextsTest {
         Due.is("likes(1, 0)", x.likes(1, 0), 0);
         Due.is("likes(2, 1)", x.likes(2, 1), 9);
         Due.is("likes(0, 2)", x.likes(0, 2), 5);
+    }
+
+    private static void nothingStaysOfTrials() {
+        MedalBoard x = Due.withArmy("pride 0;man m courage 1 medals 99;man n courage 2;man o courage 0 medals 99;");
+        Due.war(x, "face m 2;face n 2;face n 1;fall m;fall o;face n 1;lose n;lose o;");
+        x.mean(0, 0, 3);
+        Due.answered("a new one behind mean()", x, Due.army(x, TWO), 2);
+        for (int what = 4; what < 10; what++) {
+            Due.is("behind mean(): told(" + what + ")", x.told(what), 0);
+        }
     }
 
     private static void armyStands() {
@@ -249,7 +260,10 @@ public final class TextsTest {
         badWar(three + "any;".repeat(27) + "loop", 6, 136);
         MedalBoard x = Due.withArmy(TWO);
         Due.answered("thirty", x, Due.war(x, thirty), 30);
-        Due.answered("thirty that hold", x, Due.war(x, "loop 1;end;".repeat(27)), 27);
+        Due.answered("thirty that hold", x, Due.war(x, "loop1;end;".repeat(30)), 30);
+        Due.answered("all of them are done", x, x.live(0), 30);
+        Due.answered("thirty that hold another", x, Due.war(x, "loop1;any;end;".repeat(15)), 30);
+        Due.answered("all of them are done", x, x.live(0), 30);
         x.enlist(1, 1);
         Due.refused("nobody is named so", x, Due.war(x, "fall o;"), 9);
     }

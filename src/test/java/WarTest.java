@@ -111,22 +111,21 @@ public final class WarTest {
         lives("loop 99;face c 1;face c 1;face c 1;end;any;stop;stop;", 5, 300, 0);
         MedalBoard x = at("loop 99;face c 1;face c 1;face c 1;end;stop;fall a;fall b;");
         lives(x, "a stop leaves none", 0, 299, 0, 0, 297, 0, 0);
+        Due.war(x, "loop 99;loop 99;any;end;end;");
+        lives(x, "a STEP is left", 0, 300);
+        Due.is("a STEP is left", x.lived(4), 1);
+        Due.war(x, "any;");
+        lives(x, "none is left now", 0, 1);
+        Due.is("none is left now", x.lived(4), 0);
         MedalBoard y = at("loop 99;face c 1;face c 1;face c 1;end;fall b;stop;fall a;");
         lives(y, "a stop as the 300th", 0, 300, 0, 0, 297, 0, 0);
     }
 
     private static void draws() {
         MedalBoard x = at("any;");
-        int s = 0;
-        s = (s * 3109 + 11321) % 65536;
-        Due.is("the first s", s, 11321);
-        int man = s / 8 % 3;
-        s = (s * 3109 + 11321) % 65536;
-        int size = 1 + s / 8 % 20;
-        Due.is("who", man, 2);
+        // s becomes 11321: 1415 by 3 leaves 2, so it is c, who flees whatever comes
         Due.answered("any", x, x.live(0), 1);
-        Due.is("c fled a size above 0", x.man(2, 4), 1);
-        Due.is("the size is one", size >= 1 && size <= 20 ? 1 : 0, 1);
+        Due.is("c fled", x.man(2, 4), 1);
         for (int seed = 0; seed < 10000; seed += 37) {
             byHand(seed, 9);
         }
