@@ -432,8 +432,7 @@ public final class MedalBoard {
         if (!holds(set, candidate)) {
             return refuse(CANT_BE);
         }
-        army.winnerOf(set);
-        return answer(army.votes[candidate]);
+        return answer(army.votesFor(candidate, set));
     }
 
     public int goesTo(int man, int size) {
@@ -1300,7 +1299,7 @@ public final class MedalBoard {
             boolean good = true;
             for (int parts = 0; parts <= WAR_ROOM && good && !in.atEnd(); parts++) {
                 int word = in.tape.word;
-                good = word == W_END ? takeEnd() : takeBegin(word) && takeRest(word) && takeStop(word);
+                good = word == W_END ? takeEnd() : takeBegin(word) && takeRest(word) && takeLast(word);
             }
             if (good && depth > 0) {
                 good = in.fail(F_PLACE);
@@ -1336,7 +1335,7 @@ public final class MedalBoard {
             return true;
         }
 
-        private boolean takeStop(int word) {
+        private boolean takeLast(int word) {
             if (!in.takeSign(';')) {
                 return false;
             }
@@ -1553,7 +1552,16 @@ public final class MedalBoard {
             return best;
         }
 
-        /** Who wins, or NONE; the votes that each has stay in their row. */
+        int votesFor(int candidate, int candidates) {
+            int sum = 0;
+            for (int voter = 0; voter < count; voter++) {
+                if ((living >> voter & 1) != 0 && choiceOf(voter, candidates) == candidate) {
+                    sum += weight[voter];
+                }
+            }
+            return sum;
+        }
+
         int winnerOf(int candidates) {
             Arrays.fill(votes, 0);
             for (int voter = 0; voter < count; voter++) {

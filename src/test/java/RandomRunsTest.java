@@ -17,6 +17,7 @@ public final class RandomRunsTest {
     private final Model model = new Model();
     private final List<String> history = new ArrayList<>();
     private int wrong = 0;
+    private int arguments = 60;
 
     private RandomRunsTest(long seed) {
         random = new Random(seed);
@@ -27,10 +28,12 @@ public final class RandomRunsTest {
         int failed = 0;
         for (int run = 0; run < runs && failed < 3; run++) {
             RandomRunsTest test = new RandomRunsTest(run);
-            if (run % 2 == 0) {
-                test.run();
-            } else {
+            if (run % 3 == 0) {
+                test.run(60);
+            } else if (run % 3 == 1) {
                 test.lookAhead();
+            } else {
+                test.run(5);
             }
             if (test.wrong > 0) {
                 failed++;
@@ -57,7 +60,9 @@ public final class RandomRunsTest {
         return list;
     }
 
-    private void run() throws ReflectiveOperationException {
+    /** Calls of all kinds; of so many arguments two are odd ones. */
+    private void run(int perOdd) throws ReflectiveOperationException {
+        arguments = perOdd;
         while (history.size() < CALLS && wrong == 0) {
             int what = random.nextInt(40);
             if (what == 0) {
@@ -66,7 +71,7 @@ public final class RandomRunsTest {
                 text("war", warText());
             } else if (what < 5) {
                 fillTray();
-            } else if (what < 6 && model.headCount() < 8) {
+            } else if (what < 7 && model.headCount() < 8) {
                 call("enlist", random.nextInt(21), random.nextInt(10));
             } else {
                 Method m = CALLABLE.get(random.nextInt(CALLABLE.size()));
@@ -172,7 +177,7 @@ public final class RandomRunsTest {
 
     /** Mostly what fits the call and its place, now and then just beside it or anything. */
     private int someInt(String name, int place) {
-        int odd = random.nextInt(60);
+        int odd = random.nextInt(arguments);
         if (odd == 0) {
             return random.nextInt();
         }

@@ -50,8 +50,10 @@ public final class TextsTest {
 
     private static void armies() {
         MedalBoard x = new MedalBoard();
+        x.enlist(1, 1);
         Due.answered("empty army", x, x.army(0), 0);
         Due.fault("empty army", x, 0, -1);
+        Due.is("nobody lives", x.told(3), 0);
         Due.answered("blanks", x, Due.army(x, " \n \n"), 0);
         Due.answered("no blanks but where they must be", x, Due.army(x, "pride0;quota99;man a courage20weight9medals99;"), 1);
         Due.is("pride", x.told(1), 0);
@@ -74,8 +76,8 @@ public final class TextsTest {
     }
 
     private static void nothingStaysOfTrials() {
-        MedalBoard x = Due.withArmy("pride 0;man m courage 1 medals 99;man n courage 2;man o courage 0 medals 99;");
-        Due.war(x, "face m 2;face n 2;face n 1;fall m;fall o;face n 1;lose n;lose o;");
+        MedalBoard x = Due.withArmy("pride 0;man m courage 1 medals 99;man n courage 0 medals 99;man o courage 2 medals 9;");
+        Due.war(x, "face m 2;face n 2;face o 1;face o 3;fall m;fall n;face o 1;lose n;lose o;");
         x.mean(0, 0, 3);
         Due.answered("a new one behind mean()", x, Due.army(x, TWO), 2);
         for (int what = 4; what < 10; what++) {

@@ -74,6 +74,9 @@ public final class WarTest {
         MedalBoard y = new MedalBoard();
         Due.war(y, "any;any;");
         lives(y, "any without men", 0, 2, 2, 0, 0, 0, 0);
+        MedalBoard alone = Due.withArmy("man a courage 20;");
+        Due.war(alone, "any;any;");
+        lives(alone, "any by one man", 0, 2, 0, 2, 0, 0, 0);
     }
 
     private static void tests() {
