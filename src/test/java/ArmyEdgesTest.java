@@ -32,7 +32,8 @@ public final class ArmyEdgesTest {
     }
 
     private static void trays() {
-        Sentence s = Sentence.of("TRAYS 0 to 3 are MISSING at first, or rows of 0 to 60 numbers of 8 bits (sort 0), 16 (1), 32 (2)"
+        Sentence s = Sentence.of("TRAYS 0 to 3 are MISSING at first, or rows of 0 to 60 numbers of 8 bits (sort 0), 16 (1),"
+            + " 32 (2)"
             + " or 64 (3).");
         for (int tray = 0; tray <= 3; tray++) {
             s.refuses(2, "read", tray, 0).refuses(2, "write", tray, 0, 0).refuses(2, "copyMedals", tray);
@@ -67,13 +68,15 @@ public final class ArmyEdgesTest {
     }
 
     private static void tokens() {
-        Sentence s = Sentence.of("TOKENS, as long as they go, between them blanks (10, 32): WORDS (small letters), NUMBERS (1 to 4 digits),"
+        Sentence s = Sentence.of("TOKENS, as long as they go, between them blanks (10, 32): WORDS (small letters), NUMBERS (1"
+            + " to 4 digits),"
             + " SIGNS ; < > =");
         for (int b = 0; b < 256; b++) {
             String text = String.valueOf((char) b);
             s.anew();
             if (b == 10 || b == 32) {
-                s.army(0, text).army(0, text + text).army(1, "man" + text + "m" + text + "courage" + text + "1" + text + ";" + text);
+                s.army(0, text).army(0, text + text)
+                    .army(1, "man" + text + "m" + text + "courage" + text + "1" + text + ";" + text);
             } else if (b >= 'a' && b <= 'z' || b >= '0' && b <= '9' || b >= ';' && b <= '>') {
                 s.badArmy(2, 0, text).badArmy(2, 1, " " + text);
             } else {
@@ -99,11 +102,13 @@ public final class ArmyEdgesTest {
     private static void parts() {
         Sentence.of("ARMY: {PART}.").army(0, "").army(0, " ").army(0, "pride 1;").army(2, TWO).badArmy(2, 32, TWO + ";")
             .badArmy(2, 32, TWO + "m").badArmy(2, 32, TWO + "1").badArmy(2, 32, TWO + "courage");
-        Sentence s = Sentence.of("PART: pride NUMBER ; or quota NUMBER ; or man NAME courage NUMBER [weight NUMBER] [medals NUMBER] ;"
+        Sentence s = Sentence.of("PART: pride NUMBER ; or quota NUMBER ; or man NAME courage NUMBER [weight NUMBER] [medals"
+            + " NUMBER] ;"
             + " or likes NAME NAME NUMBER ;");
         s.badArmy(2, 0, "1;").badArmy(2, 6, "pride ;").badArmy(2, 8, "pride 1 ").badArmy(2, 8, "pride 1 pride");
         s.badArmy(2, 6, "quota ;").badArmy(2, 8, "quota 1 ").badArmy(2, 8, "quota 1 quota");
-        s.badArmy(2, 0, "m courage 1;").badArmy(2, 4, "man courage 1;").badArmy(2, 6, "man m 1;").badArmy(2, 14, "man m courage ;");
+        s.badArmy(2, 0, "m courage 1;").badArmy(2, 4, "man courage 1;").badArmy(2, 6, "man m 1;")
+            .badArmy(2, 14, "man m courage ;");
         s.badArmy(2, 15, "man m courage 1").badArmy(2, 16, "man m courage 1 man").badArmy(2, 16, "man m courage 1 2;");
         s.badArmy(2, 23, "man m courage 1 weight ;").badArmy(2, 23, "man m courage 1 weight medals 1;");
         s.badArmy(2, 24, "man m courage 1 weight 1").badArmy(2, 23, "man m courage 1 medals ;");
@@ -125,9 +130,11 @@ public final class ArmyEdgesTest {
     }
 
     private static void names() {
-        Sentence s = Sentence.of("NAME: a WORD of 1 to 8 letters that is none of pride, quota, man, courage, weight, medals, likes, face,"
+        Sentence s = Sentence.of("NAME: a WORD of 1 to 8 letters that is none of pride, quota, man, courage, weight, medals,"
+            + " likes, face,"
             + " give, lose, fall, any, when, brave, worn, fled, loop, end, stop.");
-        s.army(1, "man a courage 1;").army(1, "man z courage 1;").army(1, "man abcdefgh courage 1;").army(1, "man zzzzzzzz courage 1;");
+        s.army(1, "man a courage 1;").army(1, "man z courage 1;").army(1, "man abcdefgh courage 1;")
+            .army(1, "man zzzzzzzz courage 1;");
         s.badArmy(2, 4, "man abcdefghi courage 1;").badArmy(2, 4, "man 1 courage 1;").badArmy(2, 4, "man ; courage 1;");
         s.badArmy(2, 4, "man " + "a".repeat(40) + " courage 1;");
         for (String word : KEPT) {
@@ -182,7 +189,8 @@ public final class ArmyEdgesTest {
     }
 
     private static void likes() {
-        Sentence s = Sentence.of("LIKES: the first MAN likes the second one so much (0 to 9; 5 if nothing is told; himself 0; told again:"
+        Sentence s = Sentence.of("LIKES: the first MAN likes the second one so much (0 to 9; 5 if nothing is told; himself 0;"
+            + " told again:"
             + " the latest).");
         s.army(2, TWO).gives(5, "likes", 0, 1).gives(5, "likes", 1, 0).refuses(7, "likes", 0, 0);
         s.army(2, TWO + "likes m n 0;").gives(0, "likes", 0, 1).gives(5, "likes", 1, 0);
@@ -210,7 +218,8 @@ public final class ArmyEdgesTest {
     private static void firstFault() {
         Sentence s = Sentence.of("FAULTS, the first along the text (of one TOKEN the least kind):");
         s.badArmy(4, 6, "pride 10;?").badArmy(1, 0, "?pride 10;").badArmy(4, 6, "pride 10 10").badArmy(2, 8, "pride 1 <;");
-        s.badArmy(1, 8, "pride 1 ?;").badArmy(3, 20, "man m courage 1;man m courage 21;").badArmy(4, 14, "man m courage 21;man m");
+        s.badArmy(1, 8, "pride 1 ?;").badArmy(3, 20, "man m courage 1;man m courage 21;")
+            .badArmy(4, 14, "man m courage 21;man m");
         // 1 ahead of 2, ahead of 4; 2 ahead of 5; 6 at "man" stands ahead of 3 at the NAME
         s.badArmy(1, 0, "12345").badArmy(1, 6, "pride 99999;").badArmy(1, 7, "pride 1A");
         s.badArmy(2, 12, "pride 1;man pride").badArmy(2, 6, "pride pride").badArmy(6, 128, eight() + "man a courage 1;");
@@ -227,11 +236,14 @@ public final class ArmyEdgesTest {
     }
 
     private static void wrongPlace() {
-        Sentence s = Sentence.of("2 it can't stand there (the end: the text's length; a WORD of 9 letters and more where a NAME must stand).");
-        s.badArmy(2, 5, "pride").badArmy(2, 6, "pride ").badArmy(2, 9, "pride 1\n ").badArmy(2, 3, "man").badArmy(2, 900, "man" + " ".repeat(897));
+        Sentence s = Sentence.of("2 it can't stand there (the end: the text's length; a WORD of 9 letters and more where a"
+            + " NAME must stand).");
+        s.badArmy(2, 5, "pride").badArmy(2, 6, "pride ").badArmy(2, 9, "pride 1\n ").badArmy(2, 3, "man")
+            .badArmy(2, 900, "man" + " ".repeat(897));
         s.badArmy(2, 4, "man abcdefghi").badArmy(2, 5, "man  abcdefghij courage 1;").badArmy(2, 12, "man abcdefgh");
         s.badArmy(2, 38, TWO + "likes abcdefghi").badArmy(2, 40, TWO + "likes m abcdefghi").badArmy(2, 0, "abcdefghi");
-        s.badArmy(2, 0, ";").badArmy(2, 6, "pride =1;").badArmy(2, 7, "pride 1<").badArmy(2, 7, "pride 1>;").badArmy(2, 0, "face m 1;");
+        s.badArmy(2, 0, ";").badArmy(2, 6, "pride =1;").badArmy(2, 7, "pride 1<").badArmy(2, 7, "pride 1>;")
+            .badArmy(2, 0, "face m 1;");
     }
 
     private static void wrongNames() {
@@ -244,7 +256,8 @@ public final class ArmyEdgesTest {
     private static void wrongNumbers() {
         Sentence s = Sentence.of("4 a NUMBER that can't be.");
         s.badArmy(4, 6, "pride 10").badArmy(4, 6, "quota 0").badArmy(4, 6, "quota 100").badArmy(4, 14, "man m courage 21");
-        s.badArmy(4, 23, "man m courage 1 weight 10").badArmy(4, 23, "man m courage 1 medals 100").badArmy(4, 42, TWO + "likes m n 10");
+        s.badArmy(4, 23, "man m courage 1 weight 10").badArmy(4, 23, "man m courage 1 medals 100")
+            .badArmy(4, 42, TWO + "likes m n 10");
         s.badArmy(4, 6, "pride 9999").badArmy(4, 6, "quota 0000").badArmy(4, 7, "pride  0010;");
     }
 
@@ -264,7 +277,8 @@ public final class ArmyEdgesTest {
     }
 
     private static void taken() {
-        Sentence s = Sentence.of("An ARMY that is taken is there in place of that ahead; all MEN live, nobody has stood or fled; there is no WAR.");
+        Sentence s = Sentence.of("An ARMY that is taken is there in place of that ahead; all MEN live, nobody has stood or"
+            + " fled; there is no WAR.");
         s.men("pride 0;quota 9;man a courage 9 medals 99;man b courage 0 medals 99;man c courage 3;likes a b 9;").war(1, "any;");
         s.gives(1, "face", 0, 9).gives(9, "face", 1, 9).gives(2, "fall", 1).gives(8, "face", 0, 1).gives(98, "lose", 0);
         long[] old = {3, 0, 9, 5, 3, 197, 1, 2, 2, 1};
